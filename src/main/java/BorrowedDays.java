@@ -84,7 +84,7 @@ public final class BorrowedDays {
     private final State[] images = new State[MOST_IMAGES];
     private final boolean[] imageKept = new boolean[MOST_IMAGES];
     private final Tape tape = new Tape();
-    private final Reader reader = new Reader();
+    private final Reader reader = new Reader(tape);
     private final Judge judge = new Judge();
     private final Calendar calendar = new Calendar();
     private final Feast feast = new Feast();
@@ -178,7 +178,7 @@ public final class BorrowedDays {
             tape.length = 0;
             return refuse(NO_ROOM);
         }
-        boolean good = reader.read(tape);
+        boolean good = reader.read();
         tape.length = 0;
         if (!good) {
             latestFault = reader.start;
@@ -911,13 +911,16 @@ public final class BorrowedDays {
         final int[] code = new int[CODE_ROOM];
         int size = 0;
         int start = 0;
-        private Tape text = null;
+        private final Tape text;
         private int behind = 0;
         private int kind = KIND_END;
         private int parts = 0;
 
-        boolean read(Tape tape) {
+        Reader(Tape tape) {
             text = tape;
+        }
+
+        boolean read() {
             size = 0;
             behind = 0;
             parts = 0;
@@ -1076,8 +1079,20 @@ public final class BorrowedDays {
                 step();
                 turned = !turned;
             }
-            if (isSign('(') ? !readBracketTest(depth) : !readComparison(depth)) {
+            boolean bracket = isSign('(');
+            if (bracket ? !readBracketTest(depth) : !readSum(depth)) {
                 return false;
+            }
+            if (!bracket) {
+                int sign = comparisonHere();
+                if (sign == 0) {
+                    return false;
+                }
+                step();
+                if (!readSum(depth)) {
+                    return false;
+                }
+                put(sign);
             }
             if (turned) {
                 put(CODE_NOT);
@@ -1097,20 +1112,14 @@ public final class BorrowedDays {
             return true;
         }
 
-        private boolean readComparison(int depth) {
-            if (!readSum(depth)) {
-                return false;
+        private int comparisonHere() {
+            if (isSign('<')) {
+                return CODE_LESS;
             }
-            int sign = isSign('<') ? CODE_LESS : isSign('>') ? CODE_MORE : isSign('=') ? CODE_SAME : 0;
-            if (sign == 0) {
-                return false;
+            if (isSign('>')) {
+                return CODE_MORE;
             }
-            step();
-            if (!readSum(depth)) {
-                return false;
-            }
-            put(sign);
-            return true;
+            return isSign('=') ? CODE_SAME : 0;
         }
 
         private boolean readSum(int depth) {
@@ -1496,9 +1505,10 @@ public final class BorrowedDays {
             for (int village = 0; village < state.villages; village++) {
                 creditors[village] = creditorsOf(state, village);
             }
-            for (size = 2; size <= state.villages; size++) {
+            for (int few = 2; few <= state.villages; few++) {
+                size = few;
                 for (int set = 1; set < 1 << state.villages; set++) {
-                    if (Integer.bitCount(set) == size && closes(set)) {
+                    if (Integer.bitCount(set) == few && closes(set)) {
                         return;
                     }
                 }

@@ -11,7 +11,7 @@ import java.util.Random;
 public final class ModelRuns {
   static final int NONE = -1;
   static final int NOTHING = -1000000;
-  private static final int RUNS = 1500;
+  private static final int RUNS = 600;
 
   // ---- laws as trees ----
 

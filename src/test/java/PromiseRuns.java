@@ -178,7 +178,7 @@ public final class PromiseRuns {
       "bars;bars ; bars", "pays owner+holder+to+day+weekday+rain+held+price",
       "costs " + times("[", 8) + "1" + times("]", 8), "bars if " + times("(", 8) + "1=1" + times(")", 8),
       "bars if " + times("(", 4) + times("[", 4) + "1" + times("]", 4) + "=1" + times(")", 4),
-      times("bars;", 11) + "bars", "pays 1" + times("+1", 49), "bars if " + times("not ", 95) + "1=1", times("[", 0) + "pays [1]*[[2]]"};
+      times("bars;", 11) + "bars", "pays 1" + times("+1", 49), "bars if " + times("not ", 95) + "1=1", "pays [1]*[[2]]"};
     for (String text : good) faultDue(text, NONE);
   }
 
@@ -188,6 +188,16 @@ public final class PromiseRuns {
     faultDue("Pays 1", 0);
     faultDue("pay 1", 0);
     faultDue("paysday", 0);
+    for (String head : new String[] {"pays", "costs", "bars", "wants", "sells"}) faultDue("x" + head.substring(1) + " 1", 0);
+    for (String word : new String[] {"owner", "holder", "to", "day", "weekday", "rain", "held", "price"}) {
+      faultDue("pays x" + word.substring(1), 5);
+      faultDue("pays " + word.substring(0, word.length() - 1) + "x", 5);
+      faultDue("pays " + word + "s", 5);
+    }
+    faultDue("bars xf 1=1", 5);
+    faultDue("bars if xot 1=1", 8);
+    faultDue("bars if 1=1 xr 1=1", 12);
+    faultDue("bars if 1=1 xnd 1=1", 12);
     faultDue(";", 0);
     faultDue("pays", 4);
     faultDue("pays  ", 6);
