@@ -83,8 +83,8 @@ public final class BorrowedDays {
     private final State now = new State();
     private final State[] images = new State[MOST_IMAGES];
     private final boolean[] imageKept = new boolean[MOST_IMAGES];
-    private final Tape tape = new Tape();
-    private final Reader reader = new Reader(tape);
+    private final Reader reader = new Reader();
+    private final Tape tape = reader.text;
     private final Judge judge = new Judge();
     private final Calendar calendar = new Calendar();
     private final Feast feast = new Feast();
@@ -909,16 +909,12 @@ public final class BorrowedDays {
     /** Reads a text into code. Where a reading method says no, the token at start is the fault. */
     private static final class Reader {
         final int[] code = new int[CODE_ROOM];
+        final Tape text = new Tape();
         int size = 0;
         int start = 0;
-        private final Tape text;
         private int behind = 0;
         private int kind = KIND_END;
         private int parts = 0;
-
-        Reader(Tape tape) {
-            text = tape;
-        }
 
         boolean read() {
             size = 0;
