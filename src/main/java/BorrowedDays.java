@@ -503,8 +503,9 @@ public final class BorrowedDays {
         return accept(went);
     }
 
+    /** The year has its own villages: those of today do not matter. */
     public int drawn(int village, int what) {
-        if (!isVillage(village) || village >= paper.villages || what < 0 || what > 1) {
+        if (village < 0 || village >= paper.villages || what < 0 || what > 1) {
             return NONE;
         }
         return what == 0 ? paper.held[village] : awayOf(paper.holder, village);
@@ -707,11 +708,8 @@ public final class BorrowedDays {
             deeds.become(other.deeds);
         }
 
-        /** The same number again brings and takes no village, so it changes nothing. */
+        /** The same number again brings and takes no village, but deeds and loans are none then, too. */
         void resettle(int value) {
-            if (value == villages) {
-                return;
-            }
             for (int copy = 0; copy < COPIES; copy++) {
                 int owner = copy / DAYS;
                 if (owner >= value || holder[copy] >= value) {

@@ -277,7 +277,6 @@ public final class ModelRuns {
       }
       if (what != 0 || value < 1 || value > 8) return no(-1);
       int was = k.n;
-      if (value == was) return yes(was);
       for (int v = was; v < value; v++) Arrays.fill(k.holder[v], v);
       for (int v = value; v < was; v++) for (int o = 0; o < 8; o++) for (int d = 0; d < 28; d++) if (k.holder[o][d] == v) k.holder[o][d] = o;
       k.n = value;
@@ -623,7 +622,7 @@ public final class ModelRuns {
     }
 
     int drawn(int v, int what) {
-      if (year == null || !v(v) || v >= yearN || what < 0 || what > 1) return NONE;
+      if (year == null || v < 0 || v >= yearN || what < 0 || what > 1) return NONE;
       int c = 0;
       for (int o = 0; o < yearN; o++) for (int d = 0; d < 28; d++) if (what == 0 ? year[o][d] == v : o == v && year[o][d] != o) c++;
       return c;
@@ -814,7 +813,7 @@ public final class ModelRuns {
       case 16: e = upTo(10) == 0 ? wild() : upTo(8) - 1; due("price " + e, real.price(e), model.price(e)); break;
       case 17: e = upTo(11) - 1; due("forged " + e, real.forged(e), model.forged(e)); break;
       case 18: e = what(4); due("explains " + e, real.explains(e), model.explains(e)); break;
-      case 19: e = what(2); due("drawn " + a + " " + e, real.drawn(a, e), model.drawn(a, e)); break;
+      case 19: e = what(2); a = upTo(9); due("drawn " + a + " " + e, real.drawn(a, e), model.drawn(a, e)); break;
       default: e = upTo(15) - 1; due("count " + e, real.count(e), model.count(e));
     }
     due("status", real.status(), model.status);
