@@ -180,6 +180,33 @@ public final class CalendarBounds {
     due("all are with one", x.easter(27, 2), NONE);
   }
 
+  private static void eightFromTheLowest() {
+    Checks.says("or more than 8 COPIES must go.");
+    BorrowedDays x = new BorrowedDays();
+    for (int n = 1; n <= 8; n++) {
+      x.lend(1, n, 0);
+      due(n + " go from the lowest", x.easter(20, 2), n);
+    }
+    due("who gives the eighth", x.trade(20, 7, 0), 0);
+    due("who takes the eighth", x.trade(20, 7, 1), 1);
+    x.lend(1, 9, 0);
+    due("nine must go", x.easter(20, 2), NONE);
+    for (int n = 8; n >= 0; n--) {
+      x.undo();
+      due("back to " + n, x.easter(20, 2), n);
+      due("the cost of " + n, x.easter(20, 0), n);
+    }
+    x = Checks.villages(8);
+    for (int v = 0; v < 7; v++) x.lend(v, v, 7);
+    due("one from each of seven to the last", x.easter(20, 2), 7);
+    for (int v = 0; v < 7; v++) due("who takes", x.trade(20, v, 1), v);
+    x.lend(0, 8, 7);
+    due("two from the first", x.easter(20, 2), 8);
+    due("who takes the second", x.trade(20, 1, 1), 0);
+    x.lend(6, 9, 7);
+    due("two from the last, too", x.easter(20, 2), NONE);
+  }
+
   private static void twoGivers() {
     Checks.says("Givers (each as often as it has too many, lowest first) give to takers: the first as a row of takers of the lowest COST.");
     BorrowedDays x = new BorrowedDays();
@@ -203,6 +230,15 @@ public final class CalendarBounds {
     due("none of the two pays", x.easter(20, 0), 0);
     due("the first gives to the second", x.trade(20, 0, 1), 2);
     due("the second gives to the first", x.trade(20, 1, 1), 0);
+    x = Checks.under("costs 1; costs 0 if holder=1 and to=2; costs 0 if holder=3 and to=0");
+    x.lend(0, 0, 1);
+    x.lend(2, 1, 3);
+    due("asked ahead of the cost", x.trade(20, 0, 1), 2);
+    x = Checks.under("costs 0");
+    x.lend(0, 0, 1);
+    x.lend(2, 1, 3);
+    due("all cost nothing: the first as a row", x.trade(20, 0, 1), 0);
+    due("all cost nothing: each place once", x.trade(20, 1, 1), 2);
   }
 
   private static void chains() {
@@ -220,6 +256,12 @@ public final class CalendarBounds {
     x.terms(0, 8);
     due("seven trades", x.chain(0, 7), 7);
     due("one step back", x.chain(7, 0), 99);
+    x = Checks.under("costs 9; costs 1 if holder=0 or to=0");
+    for (int v = 1; v <= 3; v++) for (int w = 1; w <= 3; w++) due("by village 0, " + v + ", " + w, x.chain(v, w), v == w ? 0 : 2);
+    x = Checks.under("costs 9; costs 1 if holder+1=to; costs 1 if holder=3 and to=0");
+    for (int v = 0; v <= 3; v++) for (int w = 0; w <= 3; w++) due("round, " + v + ", " + w, x.chain(v, w), (w - v + 4) % 4);
+    x = Checks.under("costs 0");
+    due("it may cost nothing", x.chain(0, 3), 0);
   }
 
   // ---- bad days and prices ----
@@ -295,6 +337,10 @@ public final class CalendarBounds {
     due("up and down for ever", x.price(NONE), 51);
     due("behind 50 rounds up and down", x.price(0), 10);
     due("no law", new BorrowedDays().price(NONE), 1);
+    for (int w = -1; w <= 7; w++) {
+      x = Checks.under("wants if weekday+1=" + (w + 1) + " and price<12");
+      due("rounds of weekday " + w, x.price(NONE), w >= 0 && w <= 6 ? 3 : 1);
+    }
   }
 
   // ---- deeds ----
@@ -339,6 +385,43 @@ public final class CalendarBounds {
     x.deed(3, 215, 27);
     x.deed(0, 0, 0);
     due("a row of 224, one beside", x.forged(NONE), 3);
+  }
+
+  private static void burnt() {
+    Checks.says("DEEDS, 10 at most, tell that a VILLAGE was on a DAY at a DAWN");
+    int[][] so = {{1, 28, 27}, {1, 27, 27}, {1, 26, 26}};
+    int[][] forged = {{0, 28, 27}, {1, 26, 27}, {1, 28, 26}};
+    for (int i = 0; i < 3; i++) {
+      BorrowedDays x = new BorrowedDays();
+      x.lend(3, 27, 1);
+      int[][] deeds = {so[i], forged[i], so[i]};
+      for (int[] d : deeds) x.deed(d[0], d[1], d[2]);
+      due("one is forged", x.forged(NONE), 1);
+      due("the second", x.forged(0), 1);
+      x.burn(0);
+      due("one is forged still", x.forged(NONE), 1);
+      due("it moved up", x.forged(0), 0);
+      x.burn(0);
+      due("none is forged any more", x.forged(NONE), 0);
+    }
+  }
+
+  private static void oneDeedExplained() {
+    Checks.says("A LOAN that EXPLAINS: one COPY that is with another VILLAGE instead, by which none is FORGED:");
+    // at 4: one ahead of the day goes from village 1; at 5: all but those; at 6: one comes, ahead of it or on it
+    int[][] due = {{3, 0, NONE, NONE, NONE}, {4, 15, 1, 0, 0}, {5, 303, 0, 0, 2}, {6, 18, 0, 0, 1}, {7, 0, NONE, NONE, NONE}};
+    for (int[] d : due) {
+      BorrowedDays x = new BorrowedDays();
+      x.deed(1, d[0], 5);
+      for (int what = 0; what <= 3; what++) due("dawn " + d[0] + ", explains(" + what + ")", x.explains(what), d[1 + what]);
+    }
+    BorrowedDays x = new BorrowedDays();
+    x.lend(0, 5, 1);
+    x.deed(1, 7, 5);
+    // the third COPY of day 5, or one of a day ahead of it
+    due("two of a day", x.explains(0), 17);
+    x.deed(1, 4, 5);
+    due("none can be at both", x.explains(0), 0);
   }
 
   private static void explanations() {
@@ -519,6 +602,41 @@ public final class CalendarBounds {
     x.feed(0, 0, 0, 0, 0);
   }
 
+  private static void imagesKeepLists() {
+    Checks.says("BACK to one all that it keeps is as it was then");
+    int[][] others = {{0, 28, 27}, {1, 26, 27}, {1, 28, 26}};
+    for (int[] other : others) {
+      BorrowedDays x = new BorrowedDays();
+      x.image(1);
+      Checks.law(x, "pays 5");
+      x.force(0);
+      x.lend(3, 27, 2);
+      x.lend(3, 27, 1);
+      x.deed(1, 28, 27);
+      x.image(0);
+      x.lend(2, 0, 3);
+      x.back(1);
+      due("image 1, laws", x.count(2), 0);
+      due("image 1, undo", x.undo(), -3);
+      Checks.law(x, "pays 6");
+      x.force(0);
+      x.lend(0, 9, 3);
+      x.lend(0, 9, 1);
+      x.lend(1, 8, 2);
+      x.deed(other[0], other[1], other[2]);
+      x.back(0);
+      due("its law", x.of(0, 0, 0, 2), 5);
+      due("its deed is not forged", x.forged(NONE), 0);
+      int[] held = {2, 3};
+      for (int h : held) {
+        due("its loan is undone", x.undo(), 3);
+        due("who holds it then", x.of(3, 27, 0, 0), h);
+      }
+      due("it has no third loan", x.undo(), -3);
+      due("away", x.away(), 0);
+    }
+  }
+
   private static void faultStays() {
     Checks.says("keep all but the TAPE, FAULT,");
     BorrowedDays x = new BorrowedDays();
@@ -571,6 +689,7 @@ public final class CalendarBounds {
     oneCopyEach();
     daysAhead();
     eightGo();
+    eightFromTheLowest();
     twoGivers();
     chains();
     badDays();
@@ -578,6 +697,8 @@ public final class CalendarBounds {
     fiftyRounds();
     tenDeeds();
     forgedDeeds();
+    burnt();
+    oneDeedExplained();
     explanations();
     draws();
     goesIfItMay();
@@ -585,6 +706,7 @@ public final class CalendarBounds {
     twoImages();
     faultStays();
     imagesStay();
+    imagesKeepLists();
     Checks.end();
   }
 }

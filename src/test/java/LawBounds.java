@@ -35,6 +35,22 @@ public final class LawBounds {
     due("the first", Checks.law(x, "bars"), 0);
   }
 
+  private static void eachLawAlone() {
+    Checks.says("LAWS are TEXTS, 6 at most,");
+    BorrowedDays x = new BorrowedDays();
+    for (int i = 0; i < 5; i++) due("50 parts, law " + i, Checks.law(x, "pays " + i + Checks.times(49, "+1")), i);
+    due("a text that can't be, of 51 parts", Checks.law(x, "pays 1" + Checks.times(50, "+1")), -6);
+    due("a law that tells of no pay", Checks.law(x, "bars if " + Checks.times(8, "(") + "1=1" + Checks.times(8, ")")), 5);
+    for (int i = 0; i < 5; i++) {
+      x.force(i);
+      due("what law " + i + " tells", x.of(0, 0, 0, 2), 49 + i);
+      due("law " + i + " bars none", x.of(0, 0, 0, 1), 0);
+    }
+    x.force(5);
+    due("no pay is told", x.of(0, 0, 0, 2), 1);
+    due("all are barred", x.of(0, 0, 0, 1), 1);
+  }
+
   private static void fourHundredBytes() {
     Checks.says("on a TAPE of at most 400 bytes;");
     BorrowedDays x = Checks.under("pays 7" + Checks.times(394, " "));
@@ -83,6 +99,32 @@ public final class LawBounds {
     Checks.faultAt("pays weekdays", 5);
     Checks.good("bars if not1=1and not1=1or(1=1)");
     Checks.good("pays1if day=1");
+  }
+
+  private static void wholeWords() {
+    Checks.says("CLAUSE: ((\"pays\" | \"costs\") SUM | \"bars\" | \"wants\" | \"sells\") [\"if\" TEST].");
+    for (String head : new String[] {"pays 1", "costs 1", "bars", "wants", "sells"}) {
+      eachLetter(head, 0, head.indexOf(' ') < 0 ? head.length() : head.indexOf(' '));
+      eachLetter(head + " if 1=1", head.length() + 1, 2);
+    }
+    for (String word : new String[] {"owner", "holder", "to", "day", "weekday", "rain", "held", "price"}) {
+      eachLetter("pays " + word, 5, word.length());
+      Checks.faultAt("pays " + word + " " + word, 6 + word.length());
+    }
+    eachLetter("bars if 1=1 or 1=1", 12, 2);
+    eachLetter("bars if 1=1 and 1=1", 12, 3);
+    eachLetter("bars if not 1=1", 8, 3);
+  }
+
+  /** A word is that word with all its letters alone: neither with another one nor with one less. */
+  private static void eachLetter(String text, int at, int length) {
+    Checks.good(text);
+    for (int i = at; i < at + length; i++) {
+      Checks.faultAt(text.substring(0, i) + "q" + text.substring(i + 1), at);
+      Checks.faultAt(text.substring(0, i) + text.substring(i + 1), at);
+    }
+    Checks.faultAt(text.substring(0, at) + "q" + text.substring(at), at);
+    Checks.faultAt(text.substring(0, at + length) + "q" + text.substring(at + length), at);
   }
 
   private static void rowsOfDigits() {
@@ -264,6 +306,32 @@ public final class LawBounds {
     }
   }
 
+  private static void eachHeadAlone() {
+    Checks.says("Told by a HEAD is what the last CLAUSE with it that HOLDS tells.");
+    String[] heads = {"pays 5", "costs 5", "bars", "wants", "sells"};
+    int[][] told = {{5, 1, 0, 10}, {1, 5, 0, 10}, {1, 1, 1, 10}, {1, 1, 0, 60}, {1, 1, 0, 1}};
+    for (int i = 0; i < heads.length; i++) {
+      BorrowedDays x = Checks.under(heads[i]);
+      due("pay under '" + heads[i] + "'", x.of(0, 0, 0, 2), told[i][0]);
+      due("cost under '" + heads[i] + "'", x.chain(0, 1), told[i][1]);
+      due("barred under '" + heads[i] + "'", x.of(0, 0, 1, 1), told[i][2]);
+      due("price under '" + heads[i] + "'", x.price(0), told[i][3]);
+    }
+  }
+
+  private static void whatIsNot() {
+    Checks.says("PLAIN: \"not\" PLAIN");
+    String[] so = {"1=1", "1<2", "2>1", "(1=1)", "1=1 and 1=1", "1=2 or 1=1"};
+    String[] notSo = {"1=2", "2<1", "1<1", "1>2", "1>1", "(1=2)", "1=1 and 1=2", "1=2 or 1=2"};
+    for (int n = 0; n <= 5; n++) {
+      for (String test : so) Checks.bars("bars if " + Checks.times(n, "not ") + "(" + test + ")", n % 2 == 0);
+      for (String test : notSo) Checks.bars("bars if " + Checks.times(n, "not ") + "(" + test + ")", n % 2 == 1);
+    }
+    Checks.bars("bars if not 1=1 or 1=1", true);
+    Checks.bars("bars if not 1=2 and 1=2", false);
+    Checks.bars("bars if not not 1=1 and not 1=2", true);
+  }
+
   private static void whatIsHeld() {
     Checks.says("held: how many COPIES the VILLAGE to holds (without one that would come; 0 where to is -1).");
     Checks.bars("bars if held=28", true);
@@ -403,9 +471,11 @@ public final class LawBounds {
 
   public static void main(String[] args) {
     sixLaws();
+    eachLawAlone();
     fourHundredBytes();
     noneInForce();
     rowsOfLetters();
+    wholeWords();
     rowsOfDigits();
     singleBytes();
     blanks();
@@ -415,6 +485,8 @@ public final class LawBounds {
     eightBrackets();
     faultPlaces();
     notTold();
+    eachHeadAlone();
+    whatIsNot();
     whatIsHeld();
     beyondTheMost();
     dividedByNothing();

@@ -267,6 +267,25 @@ public final class VillageBounds {
     due("away", x.away(), 196);
   }
 
+  private static void eachCopyAlone() {
+    Checks.says("Each VILLAGE has a COPY of each DAY;");
+    for (int owner : new int[] {0, 1, 3}) {
+      for (int day : new int[] {0, 1, 27}) {
+        BorrowedDays x = Checks.under("bars if owner=" + owner + " and day=" + day + "; pays 0; pays holder+1 if owner=" + owner + " and day=" + day);
+        for (int o : new int[] {0, 1, 3}) for (int d : new int[] {0, 1, 26, 27}) isItself(x, o, d, o == owner && d == day);
+      }
+    }
+  }
+
+  private static void isItself(BorrowedDays x, int owner, int day, boolean is) {
+    String copy = "copy " + owner + ", " + day;
+    due(copy + ", pay", x.of(owner, day, 0, 2), is ? owner + 1 : 0);
+    due(copy + ", barred", x.of(owner, day, 2, 1), is ? 1 : 0);
+    due(copy + ", last", x.last(owner, day, 1), is ? 0 : 3);
+    due(copy + ", lend", x.lend(owner, day, 2), is ? -3 : owner);
+    due(copy + ", pay where it is", x.of(owner, day, 0, 2), is ? owner + 1 : 0);
+  }
+
   // ---- what a call is refused by ----
 
   private static void firstReason() {
@@ -358,6 +377,7 @@ public final class VillageBounds {
     weekdays();
     noRainAtFirst();
     oneHolder();
+    eachCopyAlone();
     firstReason();
     refusedChangesNothing();
     Checks.end();
